@@ -52,9 +52,6 @@ public final class GuestTower {
         tapeLength = 0;
         assembler = new Assembler();
         guests = new Guest[GUESTS];
-        for (int g = 0; g < GUESTS; g++) {
-            guests[g] = new Guest();
-        }
         latestFault = NONE;
         latestLine = NONE;
     }
@@ -85,7 +82,9 @@ public final class GuestTower {
         if (latestFault != 0) {
             return NONE;
         }
-        guests[g].begin(assembler.words, assembler.here, size, depth);
+        Guest guest = guests[g] == null ? new Guest() : guests[g];
+        guest.begin(assembler.words, assembler.here, size, depth);
+        guests[g] = guest;
         return assembler.here;
     }
 
@@ -98,7 +97,7 @@ public final class GuestTower {
     }
 
     public int run(int g, int steps) {
-        Guest guest = loadedGuest(g);
+        Guest guest = guestAt(g);
         if (guest == null || steps < 0 || steps > MOST_STEPS) {
             return NONE;
         }
@@ -106,7 +105,7 @@ public final class GuestTower {
     }
 
     public boolean type(int g, int b) {
-        Guest guest = loadedGuest(g);
+        Guest guest = guestAt(g);
         if (guest == null || b < 0 || b > 255) {
             return false;
         }
@@ -114,22 +113,22 @@ public final class GuestTower {
     }
 
     public int look(int g, int what) {
-        Guest guest = loadedGuest(g);
+        Guest guest = guestAt(g);
         return guest == null ? NONE : guest.told(what);
     }
 
     public int word(int g, int address) {
-        Guest guest = loadedGuest(g);
+        Guest guest = guestAt(g);
         return guest == null ? NONE : guest.wordAt(address);
     }
 
     public int output(int g, int i) {
-        Guest guest = loadedGuest(g);
+        Guest guest = guestAt(g);
         return guest == null ? NONE : guest.machine.console.sentByte(i);
     }
 
     public int disk(int g, int block, int i) {
-        Guest guest = loadedGuest(g);
+        Guest guest = guestAt(g);
         return guest == null ? NONE : guest.machine.blockWord(block, i);
     }
 
@@ -144,56 +143,81 @@ public final class GuestTower {
         return g >= 0 && g < GUESTS;
     }
 
-    private Guest loadedGuest(int g) {
-        if (!isGuest(g) || !guests[g].isLoaded()) {
-            return null;
-        }
-        return guests[g];
+    /** Null when there is no such guest, or none was loaded. */
+    private Guest guestAt(int g) {
+        return isGuest(g) ? guests[g] : null;
     }
 
-    /** A guest: a machine, and what is told of it. */
+    /**
+     * A guest. The machine is a bare one: the guest's own, or that of the outermost monitor, with the other
+     * monitor and the guest's memory behind it.
+     */
     private static final class Guest {
+        // Far more steps of the bare machine than the monitors need for one step of the guest.
+        private static final int LONGEST_STEP = 100000;
+
         private final Machine machine;
         private int size;
         private int depth;
+        private int start;
         private int steps;
 
         Guest() {
-            machine = new Machine(MOST_SIZE);
+            machine = new Machine(DEEPEST * Monitor.LENGTH + MOST_SIZE);
             size = 0;
-            depth = NONE;
+            depth = 0;
+            start = 0;
             steps = 0;
-        }
-
-        boolean isLoaded() {
-            return depth != NONE;
         }
 
         void begin(int[] words, int length, int newSize, int newDepth) {
             size = newSize;
             depth = newDepth;
+            start = newDepth * Monitor.LENGTH;
             steps = 0;
-            machine.clear(newSize);
-            machine.copyIn(words, length, 0);
+            machine.clear(start + newSize);
+            for (int level = 0; level < newDepth; level++) {
+                machine.copyIn(Monitor.WORDS, Monitor.LENGTH, level * Monitor.LENGTH);
+            }
+            machine.copyIn(words, length, start);
+            awaitTurn();
         }
 
         int advance(int wanted) {
             int done = 0;
             while (done < wanted && !machine.halted) {
                 machine.step();
+                awaitTurn();
                 done++;
             }
             steps += done;
             return done;
         }
 
+        private void awaitTurn() {
+            for (int i = 0; i < LONGEST_STEP && !isTurn(); i++) {
+                machine.step();
+            }
+        }
+
+        /** Whether the next step of the bare machine is one of the guest's: no monitor is at work. */
+        private boolean isTurn() {
+            if (depth == 0 || machine.halted) {
+                return true;
+            }
+            if (machine.mode != Machine.USER) {
+                return false;
+            }
+            return depth == 1 || machine.memory[Monitor.MODE] == Machine.USER;
+        }
+
         int told(int what) {
             switch (what) {
-                case 0: return machine.mode;
-                case 1: return machine.pc;
-                case 2: return machine.base;
-                case 3: return machine.bound;
-                case 4: return machine.timer;
+                case 0: return mode();
+                case 1: return pc();
+                case 2: return depth == 0 ? machine.base : kept(Monitor.BASE);
+                case 3: return depth == 0 ? machine.bound : kept(Monitor.BOUND);
+                case 4: return timer();
                 case 5: return machine.ranOut ? 1 : 0;
                 case 6: return machine.halted ? 1 : 0;
                 case 7: return steps;
@@ -205,9 +229,67 @@ public final class GuestTower {
             }
         }
 
-        int wordAt(int address) {
-            return address < 0 || address >= size ? NONE : machine.memory[address];
+        private int mode() {
+            return depth == 0 ? machine.mode : kept(Monitor.MODE);
         }
+
+        private int pc() {
+            // The bare machine halts in the outermost monitor; the guest stands where its last trap was.
+            return depth > 0 && machine.halted ? kept(Monitor.TRAP_PC) : machine.pc;
+        }
+
+        private int timer() {
+            // A guest's supervisor runs in user mode, so its monitor keeps the timer from falling.
+            return depth > 0 && mode() == Machine.SUPERVISOR ? kept(Monitor.TIMER) : machine.timer;
+        }
+
+        /** A word of the monitor right ahead of the guest's memory. */
+        private int kept(int address) {
+            int place = start - Monitor.LENGTH + address;
+            return place < 0 ? NONE : machine.memory[place];
+        }
+
+        int wordAt(int address) {
+            return address < 0 || address >= size ? NONE : machine.memory[start + address];
+        }
+    }
+
+    /** The program that gives a guest a machine: src/main/monitor/monitor.asm, assembled. */
+    private static final class Monitor {
+        private static final int TRAP_PC = 1;
+        private static final int MODE = 10;
+        private static final int BASE = 11;
+        private static final int BOUND = 12;
+        private static final int TIMER = 13;
+        private static final int LENGTH = 410;
+        private static final int[] WORDS = {
+            0, 0, 0, 0, 0, 36, 0, 65535, 0, 0, 0, 0, 0, 0, 0, 0,
+            1152, 0, 128, 3, 72, 410, 513, 0, 192, 403, 192, 12, 192, 409, 64, 0,
+            72, 0, 1088, 406, 192, 395, 200, 396, 208, 397, 216, 398, 224, 399, 128, 10,
+            832, 162, 192, 410, 136, 1, 200, 411, 136, 11, 200, 412, 136, 12, 200, 413,
+            136, 8, 200, 418, 136, 9, 200, 419, 72, 414, 273, 1, 208, 407, 273, 2,
+            208, 11, 281, 3, 216, 12, 265, 0, 96, 410, 482, 0, 224, 408, 160, 403,
+            660, 0, 848, 134, 144, 11, 546, 0, 404, 0, 659, 0, 848, 112, 412, 0,
+            216, 409, 840, 146, 72, 1, 200, 10, 832, 138, 128, 395, 136, 396, 144, 397,
+            152, 398, 160, 399, 1088, 406, 88, 0, 768, 112, 136, 13, 840, 122, 1224, 0,
+            768, 122, 200, 10, 832, 122, 1288, 0, 200, 13, 840, 122, 72, 0, 1224, 0,
+            768, 122, 136, 8, 80, 1, 522, 0, 840, 172, 768, 50, 136, 9, 712, 22,
+            265, 370, 904, 0, 128, 395, 136, 396, 144, 397, 152, 398, 160, 399, 0, 0,
+            80, 0, 96, 3, 984, 328, 64, 0, 768, 74, 80, 0, 96, 3, 984, 328,
+            80, 0, 337, 0, 144, 1, 88, 2, 467, 0, 337, 1, 144, 11, 337, 2,
+            144, 12, 337, 3, 768, 276, 984, 286, 273, 395, 208, 13, 768, 276, 984, 286,
+            144, 13, 768, 248, 984, 286, 1360, 0, 337, 395, 168, 400, 176, 401, 184, 402,
+            768, 276, 984, 286, 273, 395, 1424, 0, 768, 276, 984, 302, 1489, 0, 768, 276,
+            984, 302, 1553, 0, 136, 1, 80, 2, 458, 0, 200, 407, 768, 122, 232, 400,
+            240, 401, 248, 402, 136, 9, 712, 19, 80, 7, 586, 0, 920, 0, 216, 404,
+            984, 286, 273, 395, 208, 405, 144, 9, 96, 7, 596, 0, 274, 395, 96, 15,
+            984, 328, 144, 405, 152, 404, 920, 0, 136, 408, 128, 1, 456, 0, 265, 1,
+            458, 0, 144, 409, 385, 0, 642, 0, 832, 360, 481, 0, 674, 0, 864, 358,
+            144, 408, 458, 0, 920, 0, 394, 0, 200, 9, 72, 2, 200, 8, 64, 0,
+            768, 50, 180, 0, 0, 0, 0, 0, 0, 0, 0, 0, 0, 0, 0, 0,
+            0, 0, 0, 192, 202, 230, 238, 244, 258, 266, 272, 0, 0, 0, 0, 0,
+            0, 0, 0, 0, 0, 0, 1, 16, 410, 0
+        };
     }
 
     /** A bare machine. */
@@ -221,13 +303,9 @@ public final class GuestTower {
         private static final int NO_OPERATION = 5;
         private static final int FIRST_PC = 16;
         private static final int REGISTERS = 8;
+        private static final int STATUS_WORDS = 4;
         private static final int BLOCKS = 8;
         private static final int BLOCK_WORDS = 16;
-
-        /** How many words of the memory each operation wants. */
-        private static final int[] WANTED = {
-            0, 0, 1, 1, 1, 1, 0, 0, 0, 0, 0, 0, 0, 0, 0, 0, 0, 4, 4, 0, 0, 0, 0, 16, 16
-        };
 
         private final int[] memory;
         private final int[] registers;
@@ -238,6 +316,7 @@ public final class GuestTower {
         private int pc;
         private int base;
         private int bound;
+        // The good addresses are those below it: up to the bound, or to the memory's end.
         private int reach;
         private int timer;
         private boolean ranOut;
@@ -257,10 +336,14 @@ public final class GuestTower {
             Arrays.fill(blocks, 0);
             console.clear();
             size = newSize;
+            mode = SUPERVISOR;
+            pc = FIRST_PC;
+            base = 0;
+            bound = newSize;
+            reach = newSize;
             timer = 0;
             ranOut = false;
             halted = false;
-            setStatus(SUPERVISOR, FIRST_PC, 0, newSize);
         }
 
         void copyIn(int[] words, int length, int start) {
@@ -280,101 +363,110 @@ public final class GuestTower {
             return blocks[block * BLOCK_WORDS + i];
         }
 
+        /** A step of a machine that is not halted. Sums of PC need not go round: no good address is so high. */
         void step() {
             if (mode == USER && ranOut) {
                 ranOut = false;
                 trap(TIME, 0, pc);
                 return;
             }
-            int second = (pc + 1) & WORD_MASK;
-            if (!isGood(pc)) {
-                trap(BAD_ADDRESS, pc, pc);
-            } else if (!isGood(second)) {
-                trap(BAD_ADDRESS, second, pc);
-            } else {
-                obey(memory[base + pc], memory[base + second]);
+            if (pc + 1 >= reach) {
+                trap(BAD_ADDRESS, pc < reach ? pc + 1 : pc, pc);
+                return;
             }
-        }
-
-        private void obey(int first, int n) {
+            int first = memory[base + pc];
+            int n = memory[base + pc + 1];
             int operation = first >> 6;
+            int a = (first >> 3) & 7;
+            int b = first & 7;
             if (operation > PUTB) {
                 trap(NO_OPERATION, first, pc);
-                return;
-            }
-            if (mode == USER && isPrivileged(operation)) {
+            } else if (operation >= LOAD && operation <= STOREX) {
+                access(operation, a, operation < LOADX ? n : (registers[b] + n) & WORD_MASK);
+            } else if (operation > HALT && operation < SVC) {
+                compute(operation, a, b, n);
+            } else if (operation == SVC) {
+                trap(SERVICE, n, pc + 2);
+            } else if (mode == USER) {
                 trap(PRIVILEGED, first, pc);
-                return;
-            }
-            int b = first & 7;
-            int address = isIndexed(operation) ? (registers[b] + n) & WORD_MASK : n;
-            int bad = firstBad(address, WANTED[operation]);
-            if (bad != NONE) {
-                trap(BAD_ADDRESS, bad, pc);
-                return;
-            }
-            int next = (pc + 2) & WORD_MASK;
-            if (operation == SVC) {
-                trap(SERVICE, n, next);
-                return;
-            }
-            if (operation == HALT) {
-                halted = true;
-                return;
-            }
-            // No operation that a user may do changes the mode: so the mode behind it is the one ahead of it.
-            boolean timed = mode == USER;
-            pc = next;
-            if (operation < LPSW) {
-                compute(operation, (first >> 3) & 7, b, n, address);
             } else {
-                govern(operation, (first >> 3) & 7, address);
-            }
-            if (timed) {
-                tick();
+                govern(operation, a, b, n);
             }
         }
 
-        private void compute(int operation, int a, int b, int n, int address) {
+        private void access(int operation, int a, int address) {
+            if (address >= reach) {
+                trap(BAD_ADDRESS, address, pc);
+                return;
+            }
+            if (operation == LOAD || operation == LOADX) {
+                registers[a] = memory[base + address];
+            } else {
+                memory[base + address] = registers[a];
+            }
+            goOn(pc + 2);
+        }
+
+        private void compute(int operation, int a, int b, int n) {
+            int next = pc + 2;
             switch (operation) {
                 case SET: registers[a] = n; break;
-                case LOAD:
-                case LOADX: registers[a] = memory[base + address]; break;
-                case STORE:
-                case STOREX: memory[base + address] = registers[a]; break;
                 case MOVE: registers[a] = registers[b]; break;
                 case ADD: registers[a] = (registers[a] + registers[b]) & WORD_MASK; break;
                 case SUB: registers[a] = (registers[a] - registers[b]) & WORD_MASK; break;
                 case AND: registers[a] = registers[a] & registers[b]; break;
                 case LESS: registers[a] = registers[a] < registers[b] ? 1 : 0; break;
                 case SHIFT: registers[a] = shifted(registers[a], n); break;
-                case JUMP: pc = n; break;
-                case ZERO: pc = registers[a] == 0 ? n : pc; break;
-                case GO: pc = registers[a]; break;
-                case CALL: registers[a] = pc; pc = n; break;
+                case JUMP: next = n; break;
+                case ZERO: next = registers[a] == 0 ? n : next; break;
+                case GO: next = registers[a]; break;
+                case CALL: registers[a] = next; next = n; break;
                 default: break;
+            }
+            goOn(next);
+        }
+
+        private void goOn(int next) {
+            pc = next;
+            if (mode == USER && timer > 0) {
+                timer--;
+                ranOut = timer == 0;
             }
         }
 
-        private void govern(int operation, int a, int address) {
+        /** What the supervisor alone may do, so that the timer stands. */
+        private void govern(int operation, int a, int b, int n) {
+            int address = operation < GETB ? n : (registers[b] + n) & WORD_MASK;
+            int bad = firstBad(address, wordsWanted(operation));
+            if (bad != NONE) {
+                trap(BAD_ADDRESS, bad, pc);
+                return;
+            }
             int place = base + address;
+            int block = (registers[a] & 7) * BLOCK_WORDS;
+            int next = pc + 2;
             switch (operation) {
-                case LPSW: takeStatus(place); break;
-                case SPSW: keepStatus(place, pc); break;
+                case HALT: halted = true; return;
+                case LPSW: takeStatus(place); return;
+                case SPSW: keepStatus(place, next); break;
                 case SETT: timer = registers[a]; ranOut = false; break;
                 case GETT: registers[a] = timer; break;
                 case IN: registers[a] = console.nextTyped(); break;
                 case OUT: console.send(registers[a] & 255); break;
-                case GETB: System.arraycopy(blocks, (registers[a] & 7) * BLOCK_WORDS, memory, place, BLOCK_WORDS); break;
-                case PUTB: System.arraycopy(memory, place, blocks, (registers[a] & 7) * BLOCK_WORDS, BLOCK_WORDS); break;
+                case GETB: System.arraycopy(blocks, block, memory, place, BLOCK_WORDS); break;
+                case PUTB: System.arraycopy(memory, place, blocks, block, BLOCK_WORDS); break;
                 default: break;
             }
+            pc = next;
         }
 
-        private void tick() {
-            if (timer > 0) {
-                timer--;
-                ranOut = timer == 0;
+        private static int wordsWanted(int operation) {
+            switch (operation) {
+                case LPSW:
+                case SPSW: return STATUS_WORDS;
+                case GETB:
+                case PUTB: return BLOCK_WORDS;
+                default: return 0;
             }
         }
 
@@ -393,39 +485,21 @@ public final class GuestTower {
         }
 
         private void takeStatus(int place) {
-            int newMode = memory[place] == 0 ? SUPERVISOR : USER;
-            setStatus(newMode, memory[place + 1], memory[place + 2], memory[place + 3]);
-        }
-
-        private void setStatus(int newMode, int newPc, int newBase, int newBound) {
-            mode = newMode;
-            pc = newPc;
-            base = newBase;
-            bound = newBound;
-            // The good addresses are those from 0 on, up to the bound or the memory's end.
-            reach = Math.max(0, Math.min(newBound, size - newBase));
-        }
-
-        private boolean isGood(int address) {
-            return address < reach;
+            mode = memory[place] == 0 ? SUPERVISOR : USER;
+            pc = memory[place + 1];
+            base = memory[place + 2];
+            bound = memory[place + 3];
+            reach = base + bound < size ? bound : size - base;
         }
 
         private int firstBad(int address, int count) {
             for (int i = 0; i < count; i++) {
                 int wanted = (address + i) & WORD_MASK;
-                if (!isGood(wanted)) {
+                if (wanted >= reach) {
                     return wanted;
                 }
             }
             return NONE;
-        }
-
-        private static boolean isPrivileged(int operation) {
-            return operation == HALT || operation >= LPSW;
-        }
-
-        private static boolean isIndexed(int operation) {
-            return operation == LOADX || operation == STOREX || operation >= GETB;
         }
 
         private static int shifted(int value, int n) {
@@ -594,9 +668,15 @@ public final class GuestTower {
             } else if (line.order == Line.WORD) {
                 placeNumber(here, number);
             } else {
-                Arrays.fill(words, here, behind, 0);
+                clearWords(behind);
             }
             here = behind;
+        }
+
+        private void clearWords(int behind) {
+            for (int i = here; i < behind; i++) {
+                words[i] = 0;
+            }
         }
 
         private void placeNumber(int address, int lineNumber) {
@@ -705,6 +785,7 @@ public final class GuestTower {
             for (int i = at; i < end; i++) {
                 if (text[i] == ';') {
                     end = i;
+                    return;
                 }
             }
         }
@@ -796,43 +877,38 @@ public final class GuestTower {
                 return false;
             }
             skipBlanks();
-            if ((wants & WANTS_PLAIN_N) == 0 && isLetter(here())) {
-                return isLabelUseRead();
+            boolean isPlain = (wants & WANTS_PLAIN_N) != 0 || !isLetter(here());
+            if (!isPlain) {
+                wanted = takeLabel();
+                if (wanted == NO_LABEL) {
+                    return false;
+                }
+                if (here() != '+') {
+                    return true;
+                }
+                at++;
             }
             number = takeNumber();
-            return number != NONE;
-        }
-
-        private boolean isLabelUseRead() {
-            wanted = takeLabel();
-            if (wanted == NO_LABEL) {
-                return false;
-            }
-            if (here() == '+') {
-                at++;
-                number = takeNumber();
-            }
             return number != NONE;
         }
 
         private int takeNumber() {
             int value = 0;
             int digits = 0;
-            while (isDigit(here()) && digits <= NUMBER_LENGTH) {
-                value = value * 10 + here() - '0';
+            while (at < end && isDigit(text[at]) && digits <= NUMBER_LENGTH) {
+                value = value * 10 + text[at] - '0';
                 digits++;
                 at++;
             }
             return digits == 0 || digits > NUMBER_LENGTH || value > WORD_MASK ? NONE : value;
         }
 
-        /** A label as a number of its own, so that labels are compared by one test; NO_LABEL if it is too long. */
+        /** A label as one number, so that labels are compared at once; NO_LABEL if it is too long. */
         private long takeLabel() {
             long code = 0;
             int length = 0;
-            while (isLetter(here()) || isDigit(here())) {
-                int value = isLetter(here()) ? here() - 'a' + 1 : here() - '0' + 27;
-                code = code * 37 + value;
+            while (at < end && (isLetter(text[at]) || isDigit(text[at]))) {
+                code = code * 37 + (isLetter(text[at]) ? text[at] - 'a' + 1 : text[at] - '0' + 27);
                 length++;
                 at++;
             }
@@ -840,7 +916,7 @@ public final class GuestTower {
         }
 
         private void skipBlanks() {
-            while (here() == BLANK) {
+            while (at < end && text[at] == BLANK) {
                 at++;
             }
         }
