@@ -154,7 +154,7 @@ public final class GuestTower {
      */
     private static final class Guest {
         // Far more steps of the bare machine than the monitors need for one step of the guest.
-        private static final int LONGEST_STEP = 100000;
+        private static final int LONGEST_STEP = 10000;
 
         private final Machine machine;
         private int size;
@@ -302,6 +302,10 @@ public final class GuestTower {
         private static final int TIME = 4;
         private static final int NO_OPERATION = 5;
         private static final int FIRST_PC = 16;
+        private static final int OLD_STATUS = 0;
+        private static final int NEW_STATUS = 4;
+        private static final int CAUSE = 8;
+        private static final int WITH = 9;
         private static final int REGISTERS = 8;
         private static final int STATUS_WORDS = 4;
         private static final int BLOCKS = 8;
@@ -471,10 +475,10 @@ public final class GuestTower {
         }
 
         private void trap(int cause, int with, int kept) {
-            keepStatus(0, kept);
-            memory[8] = cause;
-            memory[9] = with;
-            takeStatus(4);
+            keepStatus(OLD_STATUS, kept);
+            memory[CAUSE] = cause;
+            memory[WITH] = with;
+            takeStatus(NEW_STATUS);
         }
 
         private void keepStatus(int place, int kept) {

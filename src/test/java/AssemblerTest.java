@@ -106,6 +106,10 @@ public final class AssemblerTest {
             "set r1 1", "Halt", "STOREXX r1 r2 3", "S", "LOADX r1 5", "a: SET r1 5 b:", "LOADX  r1 r2", "ATT 5", "NOP"}) {
             one(bad, 1);
         }
+        for (int b = 0; b < 256; b++) {
+            boolean good = b == 10 || b >= 32 && b <= 126;
+            fault("WORD 1 ;" + (char) b, 64, good ? 0 : 1, 1);
+        }
         fault("WORD 1\nWORD 2\n\n;\nHALT", 64, 0, 4);
         fault("WORD 1\nWORD 2\n\n;\nHALT\n\n\n", 64, 0, 4);
         fault("\n\n\nbad", 64, 1, 4);

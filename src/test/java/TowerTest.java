@@ -1,6 +1,9 @@
 import java.util.Random;
 
-/** Promises 3, 5 to 10: random programs on the three depths, held against the model of the bare machine. */
+/**
+ * Promises 3, 5 to 10: random programs on the three depths, held against the model of the bare machine.
+ * It looks at everything each time, so it makes more than the 512 calls that the document promises for.
+ */
 public final class TowerTest {
     private static final String[] A_N = {"SET", "SET", "SET", "LOAD", "STORE", "SHIFT", "ZERO", "CALL"};
     private static final String[] A_B_N = {"LOADX", "STOREX", "GETB", "PUTB"};
