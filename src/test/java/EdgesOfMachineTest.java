@@ -5,6 +5,8 @@ public final class EdgesOfMachineTest {
     private static final int USER = 1;
     /** Where a trap leads: a HALT at the memory's end. */
     private static final int HANDLER = 62;
+    private static final String FULL = "SET r0 65535/SET r1 1/SET r2 2/SET r3 3/SET r4 4/SET r5 5/SET r6 6/SET r7 7/";
+    private static final int[] FULL_KEPT = {20, 65535, 21, 1, 22, 2, 23, 3, 24, 4, 25, 5, 26, 6, 27, 7};
 
     private final Edge edge = new Edge("EdgesOfMachineTest");
     private int mode;
@@ -30,8 +32,10 @@ public final class EdgesOfMachineTest {
     private void parts() {
         wordsOf16Bits();
         registersToSeven();
+        supervisorsRegisters();
         blocksOfDisk();
         begins();
+        beginsAnewFromTheEnd();
     }
 
     private void addresses() {
@@ -86,15 +90,15 @@ public final class EdgesOfMachineTest {
     }
 
     /**
-     * A machine of 64 words that goes to a status; a trap leads it to the HALT at 62. Words 8 and 9 show 99 and 98
-     * till there was a trap. The setup's orders end with a / each, the rest begins at word 40 or behind it.
+     * A machine of 64 words that goes to a status; a trap leads it to the HALT at 62. Words 0 to 3 show 91 to 94, words
+     * 8 and 9 show 99 and 98 till there was a trap. The setup's orders end with a / each, the rest begins at word 40 or behind it.
      */
     private void status(int newMode, int newPc, int newBase, int newBound, String setup, String rest) {
         mode = newMode;
         pc = newPc;
         base = newBase;
         bound = newBound;
-        edge.begin(64, "AT 4/WORD 0/WORD " + HANDLER + "/WORD 0/WORD 64/WORD 99/WORD 98/WORD " + mode + "/WORD " + pc + "/WORD " + base
+        edge.begin(64, "WORD 91/WORD 92/WORD 93/WORD 94/WORD 0/WORD " + HANDLER + "/WORD 0/WORD 64/WORD 99/WORD 98/WORD " + mode + "/WORD " + pc + "/WORD " + base
             + "/WORD " + bound + "/AT 16/" + setup + "LPSW 10/" + rest);
         edge.run((int) setup.chars().filter(c -> c == '/').count() + 1);
         edge.looks(0, mode == 0 ? 0 : 1, 1, pc, 2, base, 3, bound);
@@ -148,6 +152,44 @@ public final class EdgesOfMachineTest {
         edge.due("a block ahead of the first", -1, edge.x.disk(edge.g, -1, 15));
     }
 
+    /** Each operation of the supervisor with each register: the others stay. */
+    private void supervisorsRegisters() {
+        edge.sentence("Promise 7 (PART 1)", "REGISTERS 0 to 7 (words)");
+        for (int a = 0; a < 8; a++) {
+            int value = FULL_KEPT[2 * a + 1];
+            at40(SUPERVISOR, 0, 64, FULL, "SETT r" + a);
+            goesOn(42);
+            edge.looks(4, value);
+            edge.looks(FULL_KEPT);
+            at40(SUPERVISOR, 0, 64, FULL, "OUT r" + a);
+            goesOn(42);
+            edge.due("output", value % 256, edge.x.output(edge.g, 0));
+            edge.looks(FULL_KEPT);
+            at40(SUPERVISOR, 0, 64, FULL + "SETT r0/", "GETT r" + a);
+            goesOn(42);
+            othersStay(a, 65535);
+            at40(SUPERVISOR, 0, 64, FULL, "IN r" + a);
+            edge.due("type", true, edge.x.type(edge.g, 200));
+            goesOn(42);
+            othersStay(a, 200);
+            at40(SUPERVISOR, 0, 64, FULL, "PUTB r" + a + " r" + (7 - a) + " " + (40 - FULL_KEPT[2 * (7 - a) + 1] + 65536) % 65536);
+            goesOn(42);
+            edge.due("block", 24 * 64 + a * 8 + 7 - a, edge.x.disk(edge.g, value % 8, 0));
+            edge.looks(FULL_KEPT);
+            at40(SUPERVISOR, 0, 64, FULL + "PUTB r" + a + " r1 3/", "GETB r" + a + " r" + (7 - a) + " "
+                + (48 - FULL_KEPT[2 * (7 - a) + 1] + 65536) % 65536);
+            goesOn(42);
+            edge.words(48, 0, HANDLER, 0, 64, 99, 98, 0, 40, 0, 64);
+            edge.looks(FULL_KEPT);
+        }
+    }
+
+    private void othersStay(int a, int value) {
+        for (int i = 0; i < 8; i++) {
+            edge.looks(20 + i, i == a ? value : FULL_KEPT[2 * i + 1]);
+        }
+    }
+
     private void begins() {
         edge.sentence("Promise 3 (PART 1)",
             "A machine begins with all 0, its program from word 0 on, SUPERVISOR, PC 16, base 0, bound the memory's size.");
@@ -173,6 +215,24 @@ public final class EdgesOfMachineTest {
         edge.words(49, 0);
         edge.due("disk", 0, edge.x.disk(edge.g, 1, 0));
         edge.due("output", -1, edge.x.output(edge.g, 0));
+    }
+
+    /** A machine begins anew, too, when the timer has just run out or when it is halted. */
+    private void beginsAnewFromTheEnd() {
+        edge.sentence("Promise 3 (PART 1)", "A machine begins with all 0");
+        at40(USER, 0, 64, "SET r1 1/SETT r1/", "JUMP 40");
+        edge.run(1);
+        edge.looks(0, 1, 4, 0, 5, 1);
+        edge.due("load anew", 18, edge.x.loadText(edge.g, 64, edge.depth, Desk.lines("AT 16/JUMP 16")));
+        edge.looks(0, 0, 1, 16, 4, 0, 5, 0);
+        edge.run(5000);
+        edge.looks(0, 0, 1, 16, 4, 0, 5, 0);
+        at40(SUPERVISOR, 0, 64, "", "HALT");
+        edge.run(1);
+        edge.looks(6, 1);
+        edge.due("load anew", 18, edge.x.loadText(edge.g, 64, edge.depth, Desk.lines("AT 16/JUMP 16")));
+        edge.looks(6, 0, 7, 0);
+        edge.run(5000);
     }
 
     private void goodBelowBound() {
@@ -300,7 +360,7 @@ public final class EdgesOfMachineTest {
         // b + N, too.
         at40(SUPERVISOR, 0, 64, "SET r2 65535/", "LOADX r1 r2 1/LOADX r1 r2 64/LOADX r1 r2 0/AT 63/WORD 6363");
         goesOn(42);
-        edge.looks(21, 0);
+        edge.looks(21, 91);
         goesOn(44);
         edge.looks(21, 6363);
         pc = 44;
@@ -348,6 +408,12 @@ public final class EdgesOfMachineTest {
             traps(2, 41);
             status(asked, 1, 65535, 65535, "", "");
             traps(2, 1);
+            for (int far : new int[] {64, 65, 1024, 32768, 64716, 65126, 65127, 65472, 65535}) {
+                status(asked, 0, far, 65535, "", "");
+                traps(2, 0);
+                status(asked, 0, far, 1, "", "");
+                traps(2, 0);
+            }
             status(asked, 65534, 42, 65535, "", "AT 40/JUMP 7");
             traps(2, 65534);
             at40(asked, 40, 65535, "", "LOAD r1 65496");
@@ -434,6 +500,8 @@ public final class EdgesOfMachineTest {
         at40(USER, 0, 64, "SET r1 1/", "ZERO r1 50");
         goesOn(42);
         for (int far : new int[] {0, 63, 64, 65535}) {
+            at40(USER, 0, 64, "SET r1 " + far + "/", "GO r1");
+            goesOn(far);
             at40(USER, 0, 64, "", "JUMP " + far);
             goesOn(far);
             pc = far;
@@ -542,6 +610,9 @@ public final class EdgesOfMachineTest {
         edge.due("run of a halted one", 0, edge.x.run(edge.g, 1));
         edge.due("run of a halted one", 0, edge.x.run(edge.g, 5000));
         edge.looks(1, 40, 6, 1, 7, 4);
+        at40(SUPERVISOR, 0, 64, FULL, "HALT");
+        edge.run(1);
+        edge.looks(FULL_KEPT);
         // HALT wants no address: its N may be any.
         at40(SUPERVISOR, 0, 64, "", "WORD 0/WORD 65535");
         edge.run(1);
@@ -560,6 +631,11 @@ public final class EdgesOfMachineTest {
 
     private void storedStatus() {
         edge.sentence(PART, "18 SPSW: words N to N + 3 are mode, PC + 2, base, bound.");
+        at40(SUPERVISOR, 0, 65535, FULL + "SETT r4/", "SPSW 56/AT 55/WORD 9/WORD 9/WORD 9/WORD 9/WORD 9/WORD 9");
+        goesOn(42);
+        edge.words(55, 9, 0, 42, 0, 65535, 9);
+        edge.looks(4, 4);
+        edge.looks(FULL_KEPT);
         at40(SUPERVISOR, 0, 65535, "", "SPSW 60");
         goesOn(42);
         edge.words(59, 0, 0, 42, 0, 65535, -1);
@@ -882,24 +958,24 @@ public final class EdgesOfMachineTest {
 
     private void registersStay() {
         edge.sentence(PART, "Registers stay.");
-        String full = "SET r0 65535/SET r1 1/SET r2 2/SET r3 3/SET r4 4/SET r5 5/SET r6 6/SET r7 7/";
-        int[] kept = {20, 65535, 21, 1, 22, 2, 23, 3, 24, 4, 25, 5, 26, 6, 27, 7};
         for (String order : new String[] {"HALT", "LOAD r1 64", "SVC 1", "WORD 65535", "IN r2", "GETT r3", "LOADX r4 r0 0"}) {
-            at40(USER, 0, 64, full, order);
-            edge.looks(kept);
-            edge.run(1);
-            edge.looks(0, 0, 1, HANDLER);
-            edge.looks(kept);
+            for (String timer : new String[] {"", "SETT r4/"}) {
+                at40(USER, 0, 64, FULL + timer, order);
+                edge.looks(FULL_KEPT);
+                edge.run(1);
+                edge.looks(0, 0, 1, HANDLER, 4, timer.isEmpty() ? 0 : 4);
+                edge.looks(FULL_KEPT);
+            }
         }
-        at40(USER, 0, 64, full + "SETT r1/", "JUMP 40");
+        at40(USER, 0, 64, FULL + "SETT r1/", "JUMP 40");
         edge.run(2);
         edge.words(8, 4);
-        edge.looks(kept);
-        at40(SUPERVISOR, 0, 64, full, "GETB r1 r6 40");
+        edge.looks(FULL_KEPT);
+        at40(SUPERVISOR, 0, 64, FULL, "GETB r1 r6 40");
         goesOn(42);
-        edge.looks(kept);
-        at40(SUPERVISOR, 0, 64, full, "LPSW 64");
+        edge.looks(FULL_KEPT);
+        at40(SUPERVISOR, 0, 64, FULL, "LPSW 64");
         traps(2, 64);
-        edge.looks(kept);
+        edge.looks(FULL_KEPT);
     }
 }

@@ -85,6 +85,14 @@ public final class EdgesOfTextTest {
         edge.x.feedText("WORD 123");
         edge.due("a number that the text's end cuts", 1, edge.x.load(edge.g, 64, edge.depth, 7));
         edge.words(0, 12, 0);
+        edge.x.feedText("WORD a\na:b");
+        edge.due("what follows a colon, cut by the text's end", 1, edge.x.load(edge.g, 64, edge.depth, 9));
+        edge.x.feedText("a:\nWORD abc");
+        edge.due("a label that the text's end cuts", 1, edge.x.load(edge.g, 64, edge.depth, 9));
+        edge.x.feedText("AT 5\nHALTED");
+        edge.due("a name that the text's end cuts", 7, edge.x.load(edge.g, 64, edge.depth, 9));
+        edge.x.feedText("MOVE r1 r77");
+        edge.due("a register that the text's end cuts", 2, edge.x.load(edge.g, 64, edge.depth, 10));
     }
 
     private void colon() {
@@ -149,7 +157,11 @@ public final class EdgesOfTextTest {
             bad(1, 1, name + "X" + wanted);
             bad(1, 1, name.substring(0, name.length() - 1) + wanted);
         }
-        bad(1, 1, "NOP");
+        for (String none : new String[] {"NOP", "H", "HALTS", "HALTHALT", "STOREXX", "LOADXX", "WORDS", "SPACES", "ATT", "A"}) {
+            bad(1, 1, none);
+            bad(1, 1, none + " r1 r2 3");
+            bad(1, 1, none + " 3");
+        }
     }
 
     private static int form(String name) {
@@ -324,6 +336,21 @@ public final class EdgesOfTextTest {
             bad(1, 1, none + ":");
             bad(1, 1, "WORD " + none + (none.matches("[0-9]+") ? "x" : ""));
         }
+        labelsApart();
+    }
+
+    /** All labels of one and of two bytes, those with neighbouring letters in one text: each is another one. */
+    private void labelsApart() {
+        String bytes = "abcdefghijklmnopqrstuvwxyz0123456789";
+        edge.x = new Tower();
+        for (char first = 'a'; first < 'z'; first++) {
+            StringBuilder text = new StringBuilder(first + ":\n" + (char) (first + 1) + ":\n");
+            for (int i = 0; i < bytes.length(); i++) {
+                text.append(first).append(bytes.charAt(i)).append(":\n");
+                text.append((char) (first + 1)).append(bytes.charAt(i)).append(":\n");
+            }
+            edge.due("labels that begin with " + first, 0, edge.x.loadText(edge.g, 64, edge.depth, text.toString()));
+        }
     }
 
     private void labelLength() {
@@ -353,6 +380,10 @@ public final class EdgesOfTextTest {
         bad(1, 2, "WORD 1\nx\na:\na:\ny");
         bad(4, 1, "SPACE 65\nx");
         bad(2, 2, "a:\na:\nSPACE 65\nx");
+        // The longest text has 3,000 lines.
+        bad(1, 3000, "\n".repeat(2999) + "x");
+        bad(1, 2999, "\n".repeat(2998) + "x\n");
+        good(0, "\n".repeat(3000));
     }
 
     private void firstFault() {
@@ -441,6 +472,15 @@ public final class EdgesOfTextTest {
         bad(5, 1, "WORD a+1");
         bad(5, 2, "WORD b\nWORD a\nb:\nWORD c");
         bad(5, 3, "\n\nJUMP a\nJUMP c");
+        // What one text wants is not wanted by the next.
+        edge.sentence(FAULTS, "When there is none: 5 a label that is nowhere, of the first line with such a one.");
+        edge.due("a label wanted", 1, edge.x.loadText(edge.g, 64, edge.depth, "WORD a+3\na:"));
+        edge.words(0, 4);
+        edge.due("none wanted", 1, edge.x.loadText(edge.g, 64, edge.depth, "WORD 7\nb:"));
+        edge.words(0, 7);
+        edge.due("nowhere", -1, edge.x.loadText(edge.g, 64, edge.depth, "WORD a"));
+        edge.due("none wanted, none there", 1, edge.x.loadText(edge.g, 64, edge.depth, "a: WORD 9"));
+        edge.words(0, 9);
         // Any other fault, on a later line too, is told ahead of it.
         bad(1, 2, "WORD a\nx");
         bad(2, 3, "WORD a\nb:\nb:");
