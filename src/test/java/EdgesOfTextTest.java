@@ -339,18 +339,23 @@ public final class EdgesOfTextTest {
         labelsApart();
     }
 
-    /** All labels of one and of two bytes, those with neighbouring letters in one text: each is another one. */
+    /** All labels of one and of two bytes, two first letters in a text: each label is another one. */
     private void labelsApart() {
-        String bytes = "abcdefghijklmnopqrstuvwxyz0123456789";
-        edge.x = new Tower();
         for (char first = 'a'; first < 'z'; first++) {
-            StringBuilder text = new StringBuilder(first + ":\n" + (char) (first + 1) + ":\n");
-            for (int i = 0; i < bytes.length(); i++) {
-                text.append(first).append(bytes.charAt(i)).append(":\n");
-                text.append((char) (first + 1)).append(bytes.charAt(i)).append(":\n");
+            for (char second = (char) (first + 1); second <= 'z'; second++) {
+                edge.x = new Tower();
+                String text = labelsFrom(first) + labelsFrom(second);
+                edge.due("labels that begin with " + first + " and " + second, 0, edge.x.loadText(edge.g, 64, edge.depth, text));
             }
-            edge.due("labels that begin with " + first, 0, edge.x.loadText(edge.g, 64, edge.depth, text.toString()));
         }
+    }
+
+    private static String labelsFrom(char first) {
+        StringBuilder text = new StringBuilder(first + ":\n");
+        for (char next : "abcdefghijklmnopqrstuvwxyz0123456789".toCharArray()) {
+            text.append(first).append(next).append(":\n");
+        }
+        return text.toString();
     }
 
     private void labelLength() {
