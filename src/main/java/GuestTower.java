@@ -554,7 +554,8 @@ public final class GuestTower {
         }
 
         void send(int b) {
-            if (sent < SENT_LIMIT) {
+            // Behind very many calls the count has gone round and may be below 0.
+            if (sent >= 0 && sent < SENT_LIMIT) {
                 sentBytes[sent] = b;
             }
             sent++;
@@ -605,7 +606,8 @@ public final class GuestTower {
             labelCount = 0;
             useCount = 0;
             int start = 0;
-            for (int number = 1; start < n && fault == 0; number++) {
+            // Each line takes a byte at least, so there are no more lines than bytes.
+            for (int number = 1; number <= n && start < n && fault == 0; number++) {
                 int end = lineEnd(text, start, n);
                 boolean isLine = line.isReadFrom(text, start, end);
                 tellFault(isLine ? faultOfLine(size) : NO_SUCH_LINE, number);

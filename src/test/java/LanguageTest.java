@@ -3,6 +3,7 @@ import java.lang.reflect.Method;
 import java.lang.reflect.Modifier;
 import java.nio.file.Files;
 import java.nio.file.Path;
+import java.util.List;
 import java.util.Set;
 import java.util.TreeSet;
 
@@ -20,7 +21,10 @@ public final class LanguageTest {
             methods(desk, inside);
             fields(desk, inside);
         }
+        desk.due("rule 11: classes", true, GuestTower.class.getDeclaredClasses().length < 12);
         source(desk, Files.readString(Path.of("src/main/java/GuestTower.java")));
+        lengths(desk, Files.readAllLines(Path.of("src/main/java/GuestTower.java")));
+        countOfSentBytes(desk);
         desk.end();
     }
 
@@ -72,5 +76,35 @@ public final class LanguageTest {
         desk.due("lambdas", false, code.contains("->") || code.contains("::"));
         desk.due("imports", true, code.replace("import java.util.Arrays;", "").indexOf("import") < 0);
         desk.due("bytes", true, source.matches("(?s)[\\n -~]*"));
+    }
+
+    /** Rule 11, "Methods stay short (some sixty lines)": from a head to the brace that stands below it. */
+    private static void lengths(Desk desk, List<String> lines) {
+        for (int i = 0; i < lines.size(); i++) {
+            String head = lines.get(i);
+            if (head.endsWith(") {") && head.matches(" {4}(?: {4})?\\w.*") && !head.strip().matches("(if|for|while|switch) .*")) {
+                String brace = head.replaceFirst("\\S.*", "}");
+                int length = lines.subList(i, lines.size()).indexOf(brace) + 1;
+                desk.due(head.strip() + " is short", true, length > 0 && length <= 60);
+            }
+        }
+    }
+
+    /** Rule 7, "No call may ever throw or fail to end, for any arguments in any state": not at the count's highest, either. */
+    private static void countOfSentBytes(Desk desk) throws Exception {
+        GuestTower x = new GuestTower();
+        Desk.load(x, 0, 64, 0, "AT 16\nOUT r0\nJUMP 16");
+        Object guest = ((Object[]) field(x, "guests").get(x))[0];
+        Object machine = field(guest, "machine").get(guest);
+        Object console = field(machine, "console").get(machine);
+        field(console, "sent").setInt(console, Integer.MAX_VALUE);
+        desk.due("run with a count of sent bytes that goes round", 5000, x.run(0, 5000));
+        desk.due("output of it", false, x.output(0, 0) < -1);
+    }
+
+    private static Field field(Object of, String name) throws Exception {
+        Field field = of.getClass().getDeclaredField(name);
+        field.setAccessible(true);
+        return field;
     }
 }

@@ -9,17 +9,21 @@ final class MonitorText {
     private MonitorText() {
     }
 
-    static int[] words() throws IOException {
+    /** Without remarks and empty lines, which would not find room on the tape's 3,000 bytes. */
+    static String text() throws IOException {
         StringBuilder text = new StringBuilder();
         for (String line : Files.readAllLines(FILE)) {
-            // The tape takes 3,000 bytes: remarks and empty lines would not find room on it.
             String counted = line.replaceFirst(";.*", "").strip();
             if (!counted.isEmpty()) {
                 text.append(counted).append('\n');
             }
         }
+        return text.toString();
+    }
+
+    static int[] words() throws IOException {
         GuestTower x = new GuestTower();
-        int length = Desk.load(x, 0, 1024, 0, text.toString());
+        int length = Desk.load(x, 0, 1024, 0, text());
         if (length < 0) {
             throw new IllegalStateException("the monitor's text: fault " + x.fault(0) + " in line " + x.fault(1));
         }
